@@ -1,0 +1,50 @@
+/** Counts answers that are not due, for the tests' main methods. */
+final class Check {
+    interface Call {
+        void run();
+    }
+
+    private static int passed;
+    private static int failed;
+
+    private Check() {
+    }
+
+    static void due(String what, Object got, Object want) {
+        if (got.equals(want)) {
+            passed++;
+        } else {
+            failed++;
+            System.out.println(what + " answered " + got + ", due is " + want);
+        }
+    }
+
+    static void yes(String what, boolean got) {
+        due(what, got, true);
+    }
+
+    static void no(String what, boolean got) {
+        due(what, got, false);
+    }
+
+    /** The call must throw exactly this exception, and x must answer as before. */
+    static void refused(GhostRooms x, Class<? extends RuntimeException> kind, String what, Call call) {
+        String before = Houses.describe(x);
+        due(what, thrownBy(call), kind.getSimpleName());
+        due(what + ": the state after it", Houses.describe(x), before);
+    }
+
+    static String thrownBy(Call call) {
+        try {
+            call.run();
+            return "nothing";
+        } catch (RuntimeException e) {
+            return e.getClass().getSimpleName();
+        }
+    }
+
+    static void end() {
+        System.out.println(passed + " checks passed, " + failed + " checks failed");
+        System.exit(failed == 0 && passed > 0 ? 0 : 1);
+    }
+}
