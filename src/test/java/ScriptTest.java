@@ -151,6 +151,7 @@ public final class ScriptTest {
         runs("warm a 0000;", 0);
         runs("mode 9999;", 0);
         runs("nights 9999;", 0);
+        runs("earn 0001;", 1);
         refuses("earn 10000;", 1, 5);
         refuses("repeat 0 (earn 1;);", 2, 7);
         refuses("repeat 21 (earn 1;);", 2, 7);
@@ -251,6 +252,9 @@ public final class ScriptTest {
         }
         runs(text + ");earn 1;", 1);
         Check.due("coins", x.coins(), 51);
+        // repeats behind many others
+        runs("repeat 2 ();".repeat(20) + "repeat 2 (repeat 3 (earn 1;);earn 10;);", 8);
+        Check.due("coins", x.coins(), 76);
         runs("repeat 20 (nights 50;nights 50;);", 40);
         Check.due("nights", x.nightNumber(), 2000);
         runs("ask" + " a".repeat(298) + ";", 1);
