@@ -4,6 +4,14 @@ final class Check {
         void run();
     }
 
+    interface Answer {
+        Object get();
+    }
+
+    static final Class<IndexOutOfBoundsException> INDEX = IndexOutOfBoundsException.class;
+    static final Class<IllegalArgumentException> ARGUMENT = IllegalArgumentException.class;
+    static final Class<IllegalStateException> STATE = IllegalStateException.class;
+
     private static int passed;
     private static int failed;
 
@@ -32,6 +40,19 @@ final class Check {
         String before = Houses.describe(x);
         due(what, thrownBy(call), kind.getSimpleName());
         due(what + ": the state after it", Houses.describe(x), before);
+    }
+
+    static void throwsThe(Class<? extends RuntimeException> kind, String what, Call call) {
+        due(what, thrownBy(call), kind.getSimpleName());
+    }
+
+    /** What a call answers, or the name of what it throws. */
+    static Object outcome(Answer answer) {
+        try {
+            return answer.get();
+        } catch (RuntimeException e) {
+            return e.getClass().getSimpleName();
+        }
     }
 
     static String thrownBy(Call call) {

@@ -31,6 +31,61 @@ final class Houses {
         return x;
     }
 
+    /** The name of a room of the houses below: a, b, c and so on. */
+    static char letter(int room) {
+        return (char) ('a' + room);
+    }
+
+    /** A description of so many rooms, all as cold, to which more statements can be joined. */
+    static String rooms(int count, int coldness) {
+        StringBuilder text = new StringBuilder("house;");
+        for (int room = 0; room < count; room++) {
+            text.append("room ").append(letter(room)).append(' ').append(coldness).append(';');
+        }
+        return text.toString();
+    }
+
+    /** So many statements of doors between rooms of rooms(8, ..): a b, a c, .., b c, .., at most 28. */
+    static String doors(int count, int noise) {
+        StringBuilder text = new StringBuilder();
+        for (int low = 0, door = 0; low < 7; low++) {
+            for (int high = low + 1; high < 8 && door < count; high++, door++) {
+                text.append("door ").append(letter(low)).append(' ').append(letter(high)).append(' ').append(noise)
+                        .append(';');
+            }
+        }
+        return text.toString();
+    }
+
+    /** Statements of doors from one room to all others of so many, those to the highest rooms first. */
+    static String star(int center, int count, int noise) {
+        StringBuilder text = new StringBuilder();
+        for (int room = count - 1; room >= 0; room--) {
+            if (room != center) {
+                text.append("door ").append(letter(center)).append(' ').append(letter(room)).append(' ').append(noise)
+                        .append(';');
+            }
+        }
+        return text.toString();
+    }
+
+    static String ghost(int room) {
+        return "ghost " + letter(room) + ";";
+    }
+
+    /** A house in the night with this number; the scripts keep its calls few. */
+    static GhostRooms houseInNight(String text, int night) {
+        GhostRooms x = house(text);
+        int left = night - x.nightNumber();
+        for (; left >= 2000; left -= 2000) {
+            script(x, "repeat 20(nights 50;nights 50;);");
+        }
+        for (; left > 0; left -= 50) {
+            x.passNights(Math.min(50, left));
+        }
+        return x;
+    }
+
     static int read(GhostRooms x, String text) {
         feed(x, text);
         return x.readText();
@@ -48,8 +103,8 @@ final class Houses {
 
     static String name(GhostRooms x, int room) {
         StringBuilder name = new StringBuilder();
-        for (int i = 0; x.nameByte(room, i) != GhostRooms.NONE; i++) {
-            name.append((char) x.nameByte(room, i));
+        for (int value = x.nameByte(room, 0); value != GhostRooms.NONE; value = x.nameByte(room, name.length())) {
+            name.append((char) value);
         }
         return name.toString();
     }
