@@ -7,6 +7,7 @@ public final class EdgeNightTest {
         lowestOfTheColdest();
         smallestNoise();
         lowestBehindTheQuietest();
+        lowestInEveryOrder();
         staysWithoutNeighbor();
         randomStateWraps();
         randomStateWithoutNeighbor();
@@ -30,6 +31,7 @@ public final class EdgeNightTest {
         everyRoomOfTheSet();
         priceAndCoins();
         reasonsOfPossibleRooms();
+        reasonsOfImpossibleRooms();
         seanceEvidence();
         noSource();
         thermometerEvidence();
@@ -111,8 +113,11 @@ public final class EdgeNightTest {
     // Term 3: "In mode 1 the destination is the neighbor behind the open door with the smallest noise level."
     private static void smallestNoise() {
         String rooms = "house;mode 1;room a 0;room b 99;room c 0;";
-        Check.due("0 before 1", ghostAfterOneNight(rooms + "door a c 1;door a b 0;"), 1);
-        Check.due("8 before 9", ghostAfterOneNight(rooms + "door a c 9;door a b 8;"), 1);
+        Check.due("0 behind 1", ghostAfterOneNight(rooms + "door a c 1;door a b 0;"), 1);
+        Check.due("0 before 1", ghostAfterOneNight(rooms + "door a b 0;door a c 1;"), 1);
+        Check.due("0 to the higher room, before 1", ghostAfterOneNight(rooms + "door a c 0;door a b 1;"), 2);
+        Check.due("0 to the higher room, behind 1", ghostAfterOneNight(rooms + "door a b 1;door a c 0;"), 2);
+        Check.due("8 behind 9", ghostAfterOneNight(rooms + "door a c 9;door a b 8;"), 1);
         Check.due("9 alone", ghostAfterOneNight(rooms + "door a b 9;"), 1);
         Check.due("0 but closed", ghostAfterOneNight(rooms + "door a b 0 closed;door a c 9;"), 2);
         Check.due("0 but of other rooms", ghostAfterOneNight(rooms + "door b c 0;door a b 9;"), 1);
@@ -125,6 +130,20 @@ public final class EdgeNightTest {
                 String text = Houses.rooms(12, 5) + "mode 1;" + Houses.star(center, 12, noise) + Houses.ghost(center);
                 Check.due("eleven doors, the highest room's first", ghostAfterOneNight(text), center == 0 ? 1 : 0);
             }
+        }
+    }
+
+    // Term 3: "Of several such doors the one to the lowest-numbered room is used."
+    private static void lowestInEveryOrder() {
+        String rooms = Houses.rooms(4, 5) + "mode 1;";
+        for (String order : new String[] {"bcd", "bdc", "cbd", "cdb", "dbc", "dcb"}) {
+            StringBuilder doors = new StringBuilder();
+            for (char room : order.toCharArray()) {
+                doors.append("door a ").append(room).append(" 4;");
+            }
+            Check.due("doors to " + order, ghostAfterOneNight(rooms + doors), 1);
+            Check.due("doors to " + order + ", that to b louder",
+                    ghostAfterOneNight(rooms + doors.toString().replace("b 4", "b 5")), 2);
         }
     }
 
@@ -426,6 +445,36 @@ public final class EdgeNightTest {
         Check.due("possible again", why(y, 1), "0 -1 -1");
     }
 
+    // Term 4: "Each impossible room has an exclusion reason."
+    // Promise 35: "Returns 1 to 5; 0 if the room is possible."
+    // Promise 36: "NONE otherwise"
+    // Promise 37: "NONE otherwise"
+    private static void reasonsOfImpossibleRooms() {
+        boolean[] seen = new boolean[6];
+        for (int number = 0; number < 120; number++) {
+            GhostRooms x = Houses.some(number);
+            Houses.addRoom(x, "new", number % 100);
+            x.holdSeance(1 << number % (x.roomCount() - 1));
+            for (int night = 0; night < 6; night++) {
+                for (int room = 0; room < x.roomCount(); room++) {
+                    int reason = x.exclusionReason(room);
+                    boolean possible = (x.possibleRooms() >> room & 1) == 1;
+                    String what = "room " + room + " of house " + number + " in night " + night;
+                    Check.due(what + " is possible", possible, reason == 0);
+                    Check.due(what + " has evidence", x.exclusionEvidence(room) >= 0,
+                            reason == 1 || reason == 3 || reason == 4);
+                    Check.due(what + " has a source", x.exclusionSource(room) >= 0, reason == 3 || reason == 4);
+                    Check.yes(what + " has one of the reasons", reason >= 0 && reason <= 5);
+                    seen[reason] = true;
+                }
+                x.passNights(1);
+            }
+        }
+        for (int reason = 0; reason <= 5; reason++) {
+            Check.yes("reason " + reason + " occurred", seen[reason]);
+        }
+    }
+
     // Promise 36: "Returns for reason 1 the night number when the seance was held"
     private static void seanceEvidence() {
         GhostRooms x = Houses.house(Houses.rooms(3, 5));
@@ -436,6 +485,16 @@ public final class EdgeNightTest {
         Check.due("in night 9999", why(y, 2), "1 9999 -1");
         y.holdSeance(0b010);
         Check.due("the ghost's room has no reason", why(y, 0), "0 -1 -1");
+        GhostRooms z = Houses.house(Houses.rooms(12, 5) + "ghost f;");
+        z.holdSeance(1 << 5);
+        for (int room = 0; room < 12; room++) {
+            Check.due("every other room, a positive answer", why(z, room), room == 5 ? "0 -1 -1" : "1 0 -1");
+        }
+        GhostRooms w = Houses.house(Houses.rooms(12, 5) + "ghost f;nights 1;");
+        w.holdSeance(0xfdf);
+        for (int room = 0; room < 12; room++) {
+            Check.due("every other room, a negative answer", why(w, room), room == 5 ? "0 -1 -1" : "1 1 -1");
+        }
     }
 
     // Term 4: "in the latest night the room had no source room, that is, neither the room itself nor a neighbor of it

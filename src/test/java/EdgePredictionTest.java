@@ -22,29 +22,6 @@ public final class EdgePredictionTest {
         Check.end();
     }
 
-    /** Some small houses of all kinds; the same in every run. */
-    private static GhostRooms house(int number) {
-        StringBuilder text = new StringBuilder("house;");
-        int count = 2 + number % 5;
-        for (int room = 0; room < count; room++) {
-            int dice = number * 7 + room * 11;
-            text.append("room ").append(Houses.letter(room)).append(' ').append(dice % 13 == 0 ? 99 : dice % 17)
-                    .append(dice % 3 == 0 ? " thermo" : "").append(dice % 4 == 0 ? " micro" : "").append(';');
-        }
-        text.append(Houses.ghost(number % count)).append("mode ").append(number % 3)
-                .append(";chill ").append(1 + number % 9).append(";random ").append(number % 16).append(';');
-        GhostRooms x = Houses.house(text.toString());
-        for (int door = 0; door < count + 2; door++) {
-            int dice = number * 5 + door * 3;
-            // one from a room to itself, or a second one between two rooms, is refused and left out
-            Check.outcome(() -> x.addDoor(dice % count, dice / 3 % count, dice % 10));
-        }
-        for (int door = number % 4; door < x.doorCount(); door += 4) {
-            x.setDoorOpen(door, false);
-        }
-        return x;
-    }
-
     // Promise 41: "Throws `IllegalArgumentException` if nights is out of range"
     // Promise 42: "Throws `IllegalArgumentException` if nights is out of range"
     private static void nightsOutOfRange() {
@@ -64,8 +41,8 @@ public final class EdgePredictionTest {
     // Promise 42: "Returns the set after that many nights."
     private static void predictedNights() {
         for (int number = 0; number < 40; number++) {
-            GhostRooms asked = house(number);
-            GhostRooms lived = house(number);
+            GhostRooms asked = Houses.some(number);
+            GhostRooms lived = Houses.some(number);
             for (int nights = 0; nights <= 50; nights++) {
                 Check.due("the ghost after " + nights, asked.ghostRoomAfter(nights), lived.ghostRoom());
                 Check.due("the rooms after " + nights, asked.possibleRoomsAfter(nights), lived.possibleRooms());
@@ -170,7 +147,7 @@ public final class EdgePredictionTest {
     //     possible rooms after the next night"
     private static void bestThermometer() {
         for (int number = 0; number < 90; number++) {
-            GhostRooms x = house(number);
+            GhostRooms x = Houses.some(number);
             int best = NONE;
             int fewest = 13;
             for (int room = 0; room < x.roomCount(); room++) {
@@ -199,16 +176,20 @@ public final class EdgePredictionTest {
     private static void calmestOfTenNights() {
         int nine = 0;
         int eleven = 0;
-        for (int number = 0; number < 12 * 6 * 9; number++) {
-            String text = "house;room a " + number % 12 + ";room b " + number / 12 % 6 * 2 + ";room c 0;room d 0;"
-                    + "door a b 1;door b c 1;door c d 1;door d a 1;chill " + (1 + number / 72) + ";random 5;";
+        int moved = 0;
+        for (int number = 0; number < 720; number++) {
+            String text = "house;room a " + number % 6 + ";room b " + number % 5 + ";room c 0;room d " + number % 3
+                    + ";door a b 1;door b c 1;door c d 1;door d a 1;" + (number % 3 == 0 ? "mode 0;nights 30;" : "")
+                    + "chill " + (1 + number % 9) + ";random " + number % 16 + ";mode " + number % 3 + ";";
             int due = calmest(text, 10);
             Check.due(text, Houses.house(text).calmestMode(), due);
-            nine += calmest(text, 9) != due ? 1 : 0;
-            eleven += calmest(text, 11) != due ? 1 : 0;
+            nine += due > calmest(text, 9) ? 1 : 0;
+            eleven += due > calmest(text, 11) ? 1 : 0;
+            moved += due > 0 && number % 3 == 0 ? 1 : 0;
         }
         Check.yes("houses that tell ten nights from nine: " + nine, nine > 0);
         Check.yes("houses that tell ten nights from eleven: " + eleven, eleven > 0);
+        Check.yes("houses in which the ghost had moved before: " + moved, moved > 0);
     }
 
     private static int calmest(String text, int nights) {
@@ -216,10 +197,12 @@ public final class EdgePredictionTest {
         int fewest = nights + 1;
         for (int mode = 0; mode < 3; mode++) {
             GhostRooms x = Houses.house(text);
+            int before = x.ghostMoves();
             x.setMode(mode);
             x.passNights(nights);
-            best = x.ghostMoves() < fewest ? mode : best;
-            fewest = Math.min(x.ghostMoves(), fewest);
+            int moves = x.ghostMoves() - before;
+            best = moves < fewest ? mode : best;
+            fewest = Math.min(moves, fewest);
         }
         return best;
     }
@@ -257,7 +240,7 @@ public final class EdgePredictionTest {
     // Promise 46: "closing it would change quietestPath() for the largest number of pairs of rooms"
     private static void mostImportantDoor() {
         for (int number = 0; number < 90; number++) {
-            GhostRooms x = house(number);
+            GhostRooms x = Houses.some(number);
             String before = paths(x);
             int best = NONE;
             int most = -1;

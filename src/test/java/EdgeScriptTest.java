@@ -30,6 +30,7 @@ public final class EdgeScriptTest {
         methodsThatThrow();
         effectsBeforeRemain();
         fortyCommands();
+        repeatsBehindManyCommands();
         executedCommands();
         longestScripts();
         emptiesTheInput();
@@ -371,6 +372,17 @@ public final class EdgeScriptTest {
         runs("repeat 20 (repeat 2 (earn 1;););repeat 20 (repeat 20 (););", 40);
         runs("earn 1;".repeat(20) + "repeat 20 (earn 1;);earn 9;", 40);
         Check.due("forty coins", x.coins(), 90);
+    }
+
+    // Term 6: ""repeat" executes the enclosed commands as often as its number says."
+    private static void repeatsBehindManyCommands() {
+        String front = "repeat 2 ();".repeat(20);
+        runs(front + "repeat 2 (repeat 3 (earn 1;);repeat 2 (earn 10;);earn 30;);", 12);
+        Check.due("coins", x.coins(), 50 + 2 * (3 + 20 + 30));
+        runs(front + "thermo a on;micro b on;warm a 5;ask b;open b c;close b a;nights 2;random 3;hearing 4;", 9);
+        Check.due("the house", Houses.state(x), "settings 0 1 4 2 3 coins 48 2 night 2 moves 0 ghost 0 possible 1\n"
+                + "a 2 t why 0 -1 -1\nb 6 m why 2 -1 -1\nc 7 why 2 -1 -1\n0-1 3 closed\n1-2 4 open\n");
+        runs("repeat 2 (repeat 1 ();" + "repeat 1 ();".repeat(26) + "repeat 2 (earn 1;););", 4);
     }
 
     // Promise 5: "Returns the number of executed commands, "repeat" not counted."

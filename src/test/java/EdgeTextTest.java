@@ -14,6 +14,7 @@ public final class EdgeTextTest {
         byteOrder();
         lengthsToTruncate();
         truncatedBytes();
+        truncatedTokens();
         blanksBetweenTokens();
         bytesOfNames();
         bytesOfNumbers();
@@ -38,6 +39,7 @@ public final class EdgeTextTest {
         smallestCode();
         statementsInOrder();
         replacesAll();
+        nothingIsLeftOfTheOldHouse();
         errorsOfTheLatestText();
         Check.end();
     }
@@ -115,6 +117,29 @@ public final class EdgeTextTest {
         y.truncate(6);
         y.addRoom(5);
         Check.due("new bytes follow the kept ones", Houses.name(y, 0), "abcxyz");
+    }
+
+    // Promise 3: "Truncates the input buffer."
+    // Term 5: "or the length of the text if it ends too early"
+    private static void truncatedTokens() {
+        truncated("house;", "house", "1 5");
+        truncated("house ;", "house ", "1 6");
+        truncated("house  ;", "house ", "1 6");
+        truncated("house;", "hous", "1 0");
+        truncated("house;mode 19;", "house;mode 1", "1 12");
+        truncated("house;room ab 5;", "house;room a", "1 12");
+        truncated("house;mode 1;", "house;", "0 -1");
+        truncated("house;#", "house;", "0 -1");
+        truncated("house;room abcdefghi", "house;room abcdefgh", "1 19");
+        truncated("house;mode 00001", "house;mode 0000", "1 15");
+    }
+
+    private static void truncated(String text, String rest, String error) {
+        GhostRooms y = new GhostRooms();
+        Houses.feed(y, text + "x".repeat(60 - text.length()));
+        y.truncate(rest.length());
+        Check.thrownBy(y::readText);
+        Check.due(text + " cut to " + rest, y.errorCode() + " " + y.errorOffset(), error);
     }
 
     // Term 5: "Spaces (byte 32) and line feeds (byte 10) may stand before, between and after tokens."
@@ -475,6 +500,31 @@ public final class EdgeTextTest {
         Houses.feed(y, "house");
         Check.throwsThe(Check.ARGUMENT, "an error", y::readText);
         Check.throwsThe(Check.ARGUMENT, "empties the input, too", () -> y.truncate(1));
+    }
+
+    // Promise 4: "replaces the house, the settings and the counters"
+    private static void nothingIsLeftOfTheOldHouse() {
+        String full = Houses.rooms(12, 99).replace("99;", "99thermo micro;") + Houses.doors(24, 9)
+                + "mode2;chill9;hearing0;price9;random3;coins99;";
+        String small = "house;room a 5;room b 6;room c 9;door b a 3;";
+        GhostRooms fresh = Houses.house(small);
+        GhostRooms used = Houses.house(full);
+        used.warm(3, 50);
+        used.holdSeance(1);
+        used.passNights(9);
+        used.setDoorOpen(3, false);
+        used.nightsUntilKnown();
+        Check.yes("a full house that was lived in", used.ghostMoves() > 0 && used.coinsSpent() > 0);
+        Check.due("a small house", Houses.read(used, small), 3);
+        Check.due("all that it answers", Houses.everything(used), Houses.everything(fresh));
+        Check.due("open doors", used.setDoorOpen(0, false), 0);
+        Check.due("thermometers", used.setThermometer(1, true), 1);
+        Check.due("microphones", used.setMicrophone(1, true), 1);
+        Check.due("a new door", used.addDoor(1, 2, 9), 1);
+        Check.due("open doors", used.setDoorOpen(0, true), 2);
+        Check.due("a new room", Houses.addRoom(used, "d", 1), 3);
+        Check.due("of the new door and room", used.isOpen(1) + " " + used.hasThermometer(3) + " " + used.neighbors(3),
+                "true false 0");
     }
 
     // Promise 6: "Returns the code; 0 if that text had no error or there was no such call."

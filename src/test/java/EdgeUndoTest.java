@@ -10,6 +10,8 @@ public final class EdgeUndoTest {
         sixCalls();
         latestFirst();
         callsBehindUndo();
+        nothingIsLeftOfUndoneCalls();
+        nothingIsLeftOfTheHouseBefore();
         refusedCallsBetween();
         nothingToUndo();
         sameValueAgain();
@@ -127,6 +129,40 @@ public final class EdgeUndoTest {
         Check.due("then", x.undo() + " " + x.coins(), "1 52");
         Check.due("the oldest remembered", x.undo() + " " + x.coins(), "0 51");
         Check.throwsThe(Check.STATE, "the forgotten one", x::undo);
+    }
+
+    // Term 7: "undo() restores everything except the input buffer, the error, the output and the saved state."
+    private static void nothingIsLeftOfUndoneCalls() {
+        GhostRooms fresh = Houses.house(HOUSE);
+        GhostRooms used = Houses.house(HOUSE);
+        Houses.addRoom(used, "d", 99);
+        used.setThermometer(3, true);
+        used.setMicrophone(3, true);
+        used.addDoor(3, 0, 0);
+        used.passNights(7);
+        used.saveState();
+        for (int left = 4; left >= 0; left--) {
+            used.undo();
+        }
+        Check.due("undone", Houses.everything(used), Houses.everything(fresh));
+        Check.due("the room again, bare", Houses.addRoom(used, "e", 1), 3);
+        Check.due("its kit", used.hasThermometer(3) + " " + used.hasMicrophone(3), "false false");
+        Check.due("the door again", used.addDoor(3, 1, 1) + " " + used.noise(2), "2 1");
+        used.restoreState();
+        Check.due("the saved house", used.roomCount() + " " + used.coldness(3) + " " + used.noise(2), "4 99 0");
+    }
+
+    // Promise 65: "Restores the saved state, which stays saved."
+    private static void nothingIsLeftOfTheHouseBefore() {
+        GhostRooms fresh = Houses.house(HOUSE);
+        GhostRooms used = Houses.house(HOUSE);
+        used.saveState();
+        Houses.read(used, Houses.rooms(12, 99).replace("99;", "99thermo micro;") + Houses.doors(24, 9) + "nights 9;");
+        used.restoreState();
+        Check.due("restored", Houses.everything(used), Houses.everything(fresh));
+        Check.due("open doors", used.setDoorOpen(0, false), 0);
+        Check.due("thermometers", used.setThermometer(0, true), 2);
+        Check.due("microphones", used.setMicrophone(0, true), 2);
     }
 
     // Term 7: "Each successful call of a method that is described as undoable can be undone"

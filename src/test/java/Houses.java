@@ -73,6 +73,29 @@ final class Houses {
         return "ghost " + letter(room) + ";";
     }
 
+    /** Some small houses of all kinds; the same in every run. */
+    static GhostRooms some(int number) {
+        StringBuilder text = new StringBuilder("house;");
+        int count = 2 + number % 5;
+        for (int room = 0; room < count; room++) {
+            int dice = number * 7 + room * 11;
+            text.append("room ").append(letter(room)).append(' ').append(dice % 13 == 0 ? 99 : dice % 17)
+                    .append(dice % 3 == 0 ? " thermo" : "").append(dice % 4 == 0 ? " micro" : "").append(';');
+        }
+        text.append(ghost(number % count)).append("mode ").append(number % 3)
+                .append(";chill ").append(1 + number % 9).append(";random ").append(number % 16).append(';');
+        GhostRooms x = house(text.toString());
+        for (int door = 0; door < count + 2; door++) {
+            int dice = number * 5 + door * 3;
+            // one from a room to itself, or a second one between two rooms, is refused and left out
+            Check.outcome(() -> x.addDoor(dice % count, dice / 3 % count, dice % 10));
+        }
+        for (int door = number % 4; door < x.doorCount(); door += 4) {
+            x.setDoorOpen(door, false);
+        }
+        return x;
+    }
+
     /** A house in the night with this number; the scripts keep its calls few. */
     static GhostRooms houseInNight(String text, int night) {
         GhostRooms x = house(text);
@@ -122,6 +145,28 @@ final class Houses {
         StringBuilder text = new StringBuilder();
         text.append("error ").append(x.errorCode()).append(' ').append(x.errorOffset()).append('\n');
         text.append(state(x));
+        return text.toString();
+    }
+
+    /** All that a house of a few rooms answers; it prints a report. */
+    static String everything(GhostRooms x) {
+        StringBuilder text = new StringBuilder(state(x));
+        int rooms = x.roomCount();
+        for (int room = 0; room < rooms; room++) {
+            text.append("rank ").append(x.roomByColdness(room)).append(" neighbors ").append(x.neighbors(room));
+            for (int other = 0; other < rooms; other++) {
+                text.append(' ').append(x.doorBetween(room, other)).append('/').append(x.quietestPath(room, other));
+            }
+            text.append('\n');
+        }
+        for (int door = 0; door < x.doorCount(); door++) {
+            text.append(x.isMonitored(door) ? "monitored " : "silent ");
+        }
+        text.append(x.roomByColdness(rooms)).append(' ').append(x.violations()).append(' ').append(x.meanColdness())
+                .append(' ').append(x.possibleFraction()).append('\n').append(x.ghostRoomAfter(9)).append(' ')
+                .append(x.possibleRoomsAfter(9)).append(' ').append(x.nightsUntilKnown()).append(' ')
+                .append(x.bestThermometerRoom()).append(' ').append(x.calmestMode()).append(' ')
+                .append(x.mostImportantDoor()).append('\n').append(output(x, x.printReport()));
         return text.toString();
     }
 
