@@ -35,11 +35,11 @@ final class Check {
         due(what, got, false);
     }
 
-    /** The call must throw exactly this exception, and x must answer as before. */
+    /** The call must throw exactly this exception, and x must answer as before; Twins looks at all of x. */
     static void refused(GhostRooms x, Class<? extends RuntimeException> kind, String what, Call call) {
-        String before = Houses.describe(x);
+        String before = Houses.brief(x);
         due(what, thrownBy(call), kind.getSimpleName());
-        due(what + ": the state after it", Houses.describe(x), before);
+        due(what + ": the state after it", Houses.brief(x), before);
     }
 
     static void throwsThe(Class<? extends RuntimeException> kind, String what, Call call) {

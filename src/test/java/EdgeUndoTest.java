@@ -88,20 +88,33 @@ public final class EdgeUndoTest {
         Twins.Step[] calls = undoable().values().toArray(new Twins.Step[0]);
         for (int first = 0; first + 6 < calls.length; first++) {
             GhostRooms x = Houses.house(HOUSE);
-            String[] states = new String[7];
+            String[] states = new String[6];
             int done = 0;
+            // some refuse what another one has done
             for (int i = first; done < 6 && i < calls.length; i++) {
-                states[done] = Houses.state(x);
+                String before = settingsAndKit(x);
                 if (Check.thrownBy(step(calls[i], x)).equals("nothing")) {
+                    states[done] = before;
                     done++;
                 }
             }
             while (done > 0) {
                 done--;
                 Check.due("undo", x.undo(), done);
-                Check.due("the state before call " + (first + done), Houses.state(x), states[done]);
+                Check.due("the state before call " + (first + done), settingsAndKit(x), states[done]);
             }
         }
+    }
+
+    /** All that the calls of undoable() change, in few calls, as an object has only 512. */
+    private static String settingsAndKit(GhostRooms x) {
+        StringBuilder text = new StringBuilder(Houses.brief(x));
+        text.append(x.mode()).append(x.chill()).append(x.hearingThreshold()).append(x.seancePrice()).append(' ')
+                .append(x.randomState()).append(' ').append(x.coldness(0)).append(x.isOpen(0)).append(x.isOpen(1));
+        for (int room = 0; room < 3; room++) {
+            text.append(x.hasThermometer(room)).append(x.hasMicrophone(room));
+        }
+        return text.toString();
     }
 
     private static Check.Call step(Twins.Step step, GhostRooms x) {
@@ -335,14 +348,18 @@ public final class EdgeUndoTest {
 
     // Promise 65: "Restores the saved state, which stays saved."
     private static void savedStateStays() {
+        String saved = Houses.state(Houses.house(HOUSE));
+        undoable().forEach((what, call) -> {
+            GhostRooms x = Houses.house(HOUSE);
+            x.saveState();
+            for (int round = 0; round < 2; round++) {
+                call.on(x);
+                x.restoreState();
+                Check.due("the saved state behind " + what, Houses.state(x), saved);
+            }
+        });
         GhostRooms x = Houses.house(HOUSE);
         x.saveState();
-        String saved = Houses.state(x);
-        undoable().forEach((what, call) -> {
-            call.on(x);
-            x.restoreState();
-            Check.due("the saved state behind " + what, Houses.state(x), saved);
-        });
         x.setChill(7);
         x.undo();
         Houses.read(x, "house;");

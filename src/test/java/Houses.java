@@ -170,6 +170,12 @@ final class Houses {
         return text.toString();
     }
 
+    /** What changes most, in few calls, as an object has only 512. */
+    static String brief(GhostRooms x) {
+        return x.roomCount() + " rooms, " + x.doorCount() + " doors, ghost " + x.ghostRoom() + ", possible "
+                + x.possibleRooms() + ", night " + x.nightNumber() + ", coins " + x.coins();
+    }
+
     static String state(GhostRooms x) {
         StringBuilder text = new StringBuilder();
         text.append("settings ").append(x.mode()).append(' ').append(x.chill()).append(' ')

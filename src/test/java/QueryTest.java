@@ -1,7 +1,7 @@
 /** Promises 8 to 21, 23 to 34, 39 and 40: settings, counters, rooms and doors. */
 public final class QueryTest {
     private static final int NONE = GhostRooms.NONE;
-    private static final int[] WRONG = {-1, 3, 12, 24, 32, Integer.MIN_VALUE, Integer.MAX_VALUE};
+    private static final int[] WRONG = {-1, 3, Integer.MIN_VALUE, Integer.MAX_VALUE};
 
     private interface Query {
         Object at(int index);

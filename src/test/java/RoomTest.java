@@ -69,12 +69,13 @@ public final class RoomTest {
         com.sun.management.ThreadMXBean bean =
                 (com.sun.management.ThreadMXBean) java.lang.management.ManagementFactory.getThreadMXBean();
         long id = Thread.currentThread().getId();
+        GhostRooms[] objects = {new GhostRooms(), new GhostRooms(), new GhostRooms()};
         int sum = useAll(x);
         long empty = bean.getThreadAllocatedBytes(id);
         empty = bean.getThreadAllocatedBytes(id) - empty;
         long start = bean.getThreadAllocatedBytes(id);
         for (int i = 0; i < 50; i++) {
-            sum += useAll(x);
+            sum += useAll(objects[i % objects.length]);
         }
         long bytes = bean.getThreadAllocatedBytes(id) - start - empty;
         Check.yes("bytes made by 1,150 calls: " + bytes + " (" + sum + ")", bytes < 4096);
