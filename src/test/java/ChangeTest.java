@@ -118,6 +118,8 @@ public final class ChangeTest {
         Check.due("neighbors", x.neighbors(0), 0xfe);
     }
 
+    // Promise 49: "Opens or closes a door."
+    // Promise 49: "`door`: index of a door - `open`: whether it is open afterwards"
     private static void setDoorOpen() {
         GhostRooms x = Houses.house(HOUSE);
         Check.refused(x, IllegalStateException.class, "it is open", () -> x.setDoorOpen(0, true));
@@ -133,6 +135,8 @@ public final class ChangeTest {
         }
     }
 
+    // Promise 50: "Installs or removes the thermometer of a room."
+    // Promise 50: "`room`: index of a room - `present`: whether the room has a thermometer afterwards"
     private static void setThermometer() {
         GhostRooms x = Houses.house(HOUSE);
         Check.refused(x, IllegalStateException.class, "it has none", () -> x.setThermometer(0, false));
@@ -148,6 +152,8 @@ public final class ChangeTest {
         }
     }
 
+    // Promise 51: "Installs or removes the microphone of a room."
+    // Promise 51: "`room`: index of a room - `present`: whether the room has a microphone afterwards"
     private static void setMicrophone() {
         GhostRooms x = Houses.house(HOUSE);
         Check.refused(x, IllegalStateException.class, "it has none", () -> x.setMicrophone(0, false));
@@ -163,6 +169,7 @@ public final class ChangeTest {
         }
     }
 
+    // Promise 52: "`room`: index of a room - `amount`: 1 to 99"
     private static void warm() {
         GhostRooms x = Houses.house(HOUSE + "room d 99;");
         Check.due("by one", x.warm(0, 1), 4);

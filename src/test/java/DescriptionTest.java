@@ -42,6 +42,8 @@ public final class DescriptionTest {
         Check.due("input after '" + text + "'", Check.thrownBy(() -> x.truncate(1)), "IllegalArgumentException");
     }
 
+    // Term 5: ""room" declares the next room and its coldness. "door" declares the next door and its noise level.
+    //     "ghost" places the ghost in a room."
     private static void wholeHouse() {
         reads("house;room hall 12 thermo micro;room attic 0 micro;room b 99 thermo;room c 7;"
                 + "door attic hall 9;door hall b 0 closed;ghost b;mode 2;chill 9;hearing 0;price 9;random 15;coins 999;", 4);

@@ -80,6 +80,7 @@ public final class EdgeHouseTest {
     }
 
     // Term 1: "Rooms are numbered from 0 in the order in which they are added."
+    // Promise 47: "Returns the index of the new room."
     private static void numbersOfRooms() {
         GhostRooms x = new GhostRooms();
         for (int room = 0; room < 12; room++) {
@@ -156,6 +157,7 @@ public final class EdgeHouseTest {
     }
 
     // Promise 47: "if coldness is out of range"
+    // Promise 47: "`coldness`: 0 to 99"
     private static void coldness() {
         for (int value : new int[] {Integer.MIN_VALUE, -1, 0, 1, 98, 99, 100, Integer.MAX_VALUE}) {
             GhostRooms x = new GhostRooms();
@@ -168,7 +170,8 @@ public final class EdgeHouseTest {
         }
     }
 
-    // Term 1: "A new room has neither unless the description says so."
+    // Term 1: "A room may have a thermometer, and it may have a microphone. A new room has neither unless the
+    //     description says so."
     private static void newRoomHasNeither() {
         GhostRooms x = Houses.house("house;room a 5;room b 5 thermo;room c 5 micro;room d 5 thermo micro;");
         Houses.addRoom(x, "e", 5);
@@ -213,6 +216,7 @@ public final class EdgeHouseTest {
     }
 
     // Term 1: "Doors are numbered from 0 in the order in which they are added."
+    // Promise 48: "Returns the index of the new door."
     private static void numbersOfDoors() {
         GhostRooms x = Houses.house(Houses.rooms(12, 5));
         for (int door = 0; door < 11; door++) {
@@ -226,6 +230,7 @@ public final class EdgeHouseTest {
     }
 
     // Term 1: "A door connects two different rooms."
+    // Promise 48: "`room`: index of a room - `other`: index of another room"
     private static void differentRooms() {
         GhostRooms x = Houses.house(Houses.rooms(12, 5));
         for (int room = 0; room < 12; room++) {
@@ -253,6 +258,7 @@ public final class EdgeHouseTest {
     }
 
     // Promise 48: "if both rooms are the same or noise is out of range"
+    // Promise 48: "`noise`: 0 to 9"
     private static void noise() {
         for (int value : new int[] {Integer.MIN_VALUE, -1, 0, 1, 8, 9, 10, Integer.MAX_VALUE}) {
             GhostRooms x = Houses.house(Houses.rooms(2, 5));
@@ -264,6 +270,7 @@ public final class EdgeHouseTest {
     }
 
     // Term 1: "A new door is open unless the description says so."
+    // Promise 48: "Adds an open door."
     private static void newDoorIsOpen() {
         GhostRooms x = Houses.house(Houses.rooms(4, 5) + "door a b 1;door c b 1 closed;");
         x.addDoor(3, 2, 1);
@@ -281,9 +288,9 @@ public final class EdgeHouseTest {
         }
     }
 
-    // Promise 49: "if the door already is in that state"
-    // Promise 50: "if the room already is in that state"
-    // Promise 51: "if the room already is in that state"
+    // Promise 49: "Throws `IllegalStateException` if the door already is in that state"
+    // Promise 50: "Throws `IllegalStateException` if the room already is in that state"
+    // Promise 51: "Throws `IllegalStateException` if the room already is in that state"
     private static void sameStateAgain() {
         GhostRooms x = Houses.house(Houses.rooms(2, 5) + "door a b 1;");
         Check.throwsThe(Check.STATE, "a new door is open", () -> x.setDoorOpen(0, true));
@@ -330,19 +337,27 @@ public final class EdgeHouseTest {
         Check.due("a description without rooms", Houses.house("house;").ghostRoom(), NONE);
     }
 
-    // Term 2: "The movement mode is 0, 1 or 2 (initially 0). The chill is 1 to 9 (initially 1)."
-    // Term 2: "The hearing threshold is 0 to 9 (initially 5). The seance price is 1 to 9 (initially 2)."
-    // Term 2: "The random state is 0 to 15 (initially 7)."
+    // Term 2: "The movement mode is 0, 1 or 2 (initially 0). The chill is 1 to 9 (initially 1). The hearing threshold is
+    //     0 to 9 (initially 5). The seance price is 1 to 9 (initially 2). The random state is 0 to 15 (initially 7)."
     // Promise 8: "Returns the movement mode."
     // Promise 9: "Returns the chill."
     // Promise 10: "Returns the hearing threshold."
     // Promise 11: "Returns the seance price."
     // Promise 12: "Returns the random state."
-    // Promise 56: "Returns the previous value."
+    // Promise 56: "Sets the movement mode."
+    // Promise 56: "`value`: 0 to 2 Returns the previous value."
     // Promise 57: "if value is out of range"
+    // Promise 57: "Sets the chill."
+    // Promise 57: "`value`: 1 to 9 Returns the previous value."
     // Promise 58: "if value is out of range"
+    // Promise 58: "Sets the hearing threshold."
+    // Promise 58: "`value`: 0 to 9 Returns the previous value."
     // Promise 59: "if value is out of range"
+    // Promise 59: "Sets the seance price."
+    // Promise 59: "`value`: 1 to 9 Returns the previous value."
     // Promise 60: "if value is out of range"
+    // Promise 60: "Sets the random state."
+    // Promise 60: "`value`: 0 to 15 Returns the previous value."
     private static void settings() {
         GhostRooms x = new GhostRooms();
         setting("mode", x::setMode, v -> x.mode(), 0, 2, 0);
@@ -383,6 +398,8 @@ public final class EdgeHouseTest {
     }
 
     // Promise 52: "if amount is out of range"
+    // Promise 52: "Reduces the coldness of a room."
+    // Promise 52: "`amount`: 1 to 99 Returns the coldness afterwards."
     private static void warmAmounts() {
         for (int amount : new int[] {Integer.MIN_VALUE, -1, 0, 1, 2, 98, 99, 100, Integer.MAX_VALUE}) {
             GhostRooms x = Houses.house(Houses.rooms(1, 99));
@@ -408,6 +425,8 @@ public final class EdgeHouseTest {
     }
 
     // Promise 55: "if amount is out of range"
+    // Promise 55: "Adds coins."
+    // Promise 55: "`amount`: 1 to 99 Returns the number of coins afterwards."
     private static void earnAmounts() {
         for (int amount : new int[] {Integer.MIN_VALUE, -1, 0, 1, 2, 98, 99, 100, Integer.MAX_VALUE}) {
             GhostRooms x = Houses.house("house;coins 0;");
@@ -447,6 +466,7 @@ public final class EdgeHouseTest {
         Check.due("all spent", x.coins() + " " + x.coinsSpent(), "0 51");
     }
 
+    // Term 2: "The night number is initially 0."
     // Promise 14: "Returns the number of coins spent on seances since the house was created or described."
     // Promise 15: "Returns the night number."
     // Promise 16: "Returns the number of nights, since the house was created or described, in which the ghost changed

@@ -180,8 +180,8 @@ public final class EdgeNightTest {
         }
     }
 
-    // Term 3: "The ghost stays if k is 0. Otherwise its destination is the k-th neighbor in ascending room order,
-    //     counted from 1."
+    // Term 3: "If the current room has n neighbors, k is the new random state modulo (n + 1). The ghost stays if k is
+    //     0. Otherwise its destination is the k-th neighbor in ascending room order, counted from 1."
     private static void everyRandomMove() {
         for (int count = 1; count <= 12; count++) {
             for (int center : new int[] {0, count / 2, count - 1}) {
@@ -209,7 +209,7 @@ public final class EdgeNightTest {
         }
     }
 
-    // Term 3: "the coldness of the room that the ghost occupies before it moves"
+    // Term 3: "Step 3: the coldness of the room that the ghost occupies before it moves increases by the chill"
     private static void chillOfTheRoomLeft() {
         GhostRooms x = Houses.house("house;mode 1;room a 0;room b 0;door a b 1;chill 9;");
         x.passNights(1);
@@ -252,7 +252,8 @@ public final class EdgeNightTest {
 
     // Term 3: "A door is monitored if its noise level is at least the hearing threshold and at least one of its two
     //     rooms has a microphone."
-    // Promise 32: "Closed doors can be monitored, too."
+    // Promise 32: "Tells whether a door is monitored, see section 3. Closed doors can be monitored, too. - `door`:
+    //     index of a door Returns whether it is monitored."
     private static void monitored() {
         String[] kits = {" ; ", " micro; ", "; micro", " micro; micro"};
         for (int noise = 0; noise <= 9; noise++) {
@@ -447,8 +448,11 @@ public final class EdgeNightTest {
 
     // Term 4: "Each impossible room has an exclusion reason."
     // Promise 35: "Returns 1 to 5; 0 if the room is possible."
+    // Promise 35: "Returns the exclusion reason of a room, see section 4."
     // Promise 36: "NONE otherwise"
+    // Promise 36: "Returns the evidence for the exclusion reason of a room."
     // Promise 37: "NONE otherwise"
+    // Promise 37: "Returns the source room of the contradicted move of a room that is excluded by a sensor."
     private static void reasonsOfImpossibleRooms() {
         boolean[] seen = new boolean[6];
         for (int number = 0; number < 120; number++) {
@@ -475,6 +479,7 @@ public final class EdgeNightTest {
         }
     }
 
+    // Term 4: "Reason 1: a seance excluded the room."
     // Promise 36: "Returns for reason 1 the night number when the seance was held"
     private static void seanceEvidence() {
         GhostRooms x = Houses.house(Houses.rooms(3, 5));
@@ -497,8 +502,8 @@ public final class EdgeNightTest {
         }
     }
 
-    // Term 4: "in the latest night the room had no source room, that is, neither the room itself nor a neighbor of it
-    //     was possible before that night"
+    // Term 4: "Reason 2: in the latest night the room had no source room, that is, neither the room itself nor a
+    //     neighbor of it was possible before that night."
     private static void noSource() {
         GhostRooms x = Houses.house(Houses.rooms(4, 5) + "door a b 0;door b c 0;door c d 0 closed;");
         x.holdSeance(0b0001);
@@ -547,8 +552,10 @@ public final class EdgeNightTest {
         Check.due("door 0 is not monitored: the silent door 1 tells nothing of c that stays", why(z, 2), "0 -1 -1");
     }
 
-    // Term 4: "a thermometer report contradicts the move from the lowest-numbered source room"
-    // Term 4: "likewise, no thermometer report contradicts that move, but the report for a monitored door does"
+    // Term 4: "Reason 3: in the latest night the room had a source room, and a thermometer report contradicts the move
+    //     from the lowest-numbered source room."
+    // Term 4: "Reason 4: likewise, no thermometer report contradicts that move, but the report for a monitored door
+    //     does."
     private static void thermometerBeforeDoor() {
         String text = "house;mode 1;room a 5;room b 5 micro;room c 5 %s;door a b 9;nights 1;";
         GhostRooms x = Houses.house(String.format(text, "thermo"));
@@ -625,6 +632,7 @@ public final class EdgeNightTest {
     }
 
     // Promise 53: "if nights is out of range"
+    // Promise 53: "`nights`: 1 to 50"
     private static void nights() {
         for (int count : new int[] {Integer.MIN_VALUE, -1, 0, 1, 2, 49, 50, 51, Integer.MAX_VALUE}) {
             GhostRooms x = Houses.house(Houses.rooms(2, 5));

@@ -23,7 +23,9 @@ public final class EdgePredictionTest {
     }
 
     // Promise 41: "Throws `IllegalArgumentException` if nights is out of range"
+    // Promise 41: "`nights`: number of further nights, 0 to 50"
     // Promise 42: "Throws `IllegalArgumentException` if nights is out of range"
+    // Promise 42: "`nights`: number of further nights, 0 to 50"
     private static void nightsOutOfRange() {
         for (GhostRooms x : new GhostRooms[] {new GhostRooms(), Houses.house(Houses.rooms(12, 5))}) {
             int rooms = x.roomCount();
@@ -38,7 +40,9 @@ public final class EdgePredictionTest {
     }
 
     // Promise 41: "Returns its room after that many nights; NONE if there is no room."
+    // Promise 41: "Predicts the room of the ghost."
     // Promise 42: "Returns the set after that many nights."
+    // Promise 42: "Predicts the set of possible rooms."
     private static void predictedNights() {
         for (int number = 0; number < 40; number++) {
             GhostRooms asked = Houses.some(number);
@@ -143,8 +147,9 @@ public final class EdgePredictionTest {
                 Houses.house(Houses.rooms(11, 98) + "room l 99;ghost l;").bestThermometerRoom(), 0);
     }
 
-    // Promise 44: "Returns the room without a thermometer in which a thermometer would minimize the number of
-    //     possible rooms after the next night"
+    // Promise 44: "Returns the room without a thermometer in which a thermometer would minimize the number of possible
+    //     rooms after the next night"
+    // Promise 44: "Finds the best room for a further thermometer."
     private static void bestThermometer() {
         for (int number = 0; number < 90; number++) {
             GhostRooms x = Houses.some(number);
@@ -172,7 +177,8 @@ public final class EdgePredictionTest {
         Check.due("mode 0 rests", Houses.house("house;room a 0;room b 99;door a b 1;mode 1;").calmestMode(), 0);
     }
 
-    // Promise 45: "the ghost would change its room least often during the next 10 nights"
+    // Promise 45: "Finds the movement mode in which the ghost would change its room least often during the next 10
+    //     nights."
     private static void calmestOfTenNights() {
         int nine = 0;
         int eleven = 0;
@@ -220,7 +226,7 @@ public final class EdgePredictionTest {
         Check.due("all are closed", x.mostImportantDoor(), NONE);
     }
 
-    // Promise 46: "the lowest-numbered of several such doors"
+    // Promise 46: "Returns the door; the lowest-numbered of several such doors"
     private static void lowestImportantDoor() {
         String eight = Houses.rooms(8, 5);
         Check.due("each changes its own pair", Houses.house(eight + Houses.doors(24, 1)).mostImportantDoor(), 0);
@@ -237,7 +243,8 @@ public final class EdgePredictionTest {
                 + "door a b 9;door c d 0;door b c 0;").mostImportantDoor(), 2);
     }
 
-    // Promise 46: "closing it would change quietestPath() for the largest number of pairs of rooms"
+    // Promise 46: "Finds the most important open door: closing it would change quietestPath() for the largest number of
+    //     pairs of rooms."
     private static void mostImportantDoor() {
         for (int number = 0; number < 90; number++) {
             GhostRooms x = Houses.some(number);

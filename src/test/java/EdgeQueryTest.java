@@ -32,13 +32,17 @@ public final class EdgeQueryTest {
     }
 
     // Promise 21: "Throws `IndexOutOfBoundsException` if room is invalid"
+    // Promise 21: "`room`: index of a room"
     // Promise 23: "Throws `IndexOutOfBoundsException` if room is invalid"
     // Promise 24: "Throws `IndexOutOfBoundsException` if room is invalid"
     // Promise 25: "Throws `IndexOutOfBoundsException` if room is invalid"
     // Promise 26: "Throws `IndexOutOfBoundsException` if room is invalid"
     // Promise 35: "Throws `IndexOutOfBoundsException` if room is invalid"
+    // Promise 35: "`room`: index of a room"
     // Promise 36: "Throws `IndexOutOfBoundsException` if room is invalid"
+    // Promise 36: "`room`: index of a room"
     // Promise 37: "Throws `IndexOutOfBoundsException` if room is invalid"
+    // Promise 37: "`room`: index of a room"
     private static void roomIndexes() {
         rooms("nameByte", (x, room) -> x.nameByte(room, 0));
         rooms("nameByte of no letter", (x, room) -> x.nameByte(room, -1));
@@ -77,7 +81,9 @@ public final class EdgeQueryTest {
     }
 
     // Promise 33: "Throws `IndexOutOfBoundsException` if a room is invalid"
+    // Promise 33: "`room`: index of a room - `other`: index of a room"
     // Promise 34: "Throws `IndexOutOfBoundsException` if a room is invalid"
+    // Promise 34: "`room`: index of a room - `other`: index of a room"
     private static void twoRoomIndexes() {
         rooms("doorBetween, the first", (x, room) -> x.doorBetween(room, 0));
         rooms("doorBetween, the second", (x, room) -> x.doorBetween(0, room));
@@ -116,6 +122,8 @@ public final class EdgeQueryTest {
     }
 
     // Promise 21: "Returns the byte; NONE if the name has no such byte."
+    // Promise 21: "Returns a byte of a room name."
+    // Promise 21: "`index`: index into the name, any int"
     private static void nameBytes() {
         String letters = "zyxwvutsrqponmlkjihgfedcba";
         for (int length = 1; length <= 8; length++) {
@@ -130,6 +138,7 @@ public final class EdgeQueryTest {
     }
 
     // Promise 22: "Finds the room whose name equals the whole input buffer, which is kept."
+    // Promise 22: "Returns the index of the room; NONE if there is none."
     private static void findRoom() {
         GhostRooms x = Houses.house("house;room abcdefgh 5;room b 5;room bc 5;room z 5;");
         Check.due("an empty buffer", x.findRoom(), NONE);
@@ -159,6 +168,7 @@ public final class EdgeQueryTest {
     }
 
     // Promise 27: "Returns the room; NONE if there is no such rank."
+    // Promise 27: "`rank`: rank from 0, any int"
     private static void ranks() {
         GhostRooms same = Houses.house(Houses.rooms(12, 99));
         GhostRooms rising = new GhostRooms();
@@ -178,8 +188,8 @@ public final class EdgeQueryTest {
         Check.due("one room", one.roomByColdness(0) + " " + one.roomByColdness(1), "0 -1");
     }
 
-    // Promise 28: "Returns the lower-numbered room of a door."
-    // Promise 29: "Returns the higher-numbered room of a door."
+    // Promise 28: "Returns the lower-numbered room of a door. - `door`: index of a door Returns the room."
+    // Promise 29: "Returns the higher-numbered room of a door. - `door`: index of a door Returns the room."
     private static void lowAndHighRoom() {
         GhostRooms x = Houses.house(Houses.rooms(12, 5) + "door l a 1;door a b 2;door l k 3;");
         x.addDoor(10, 0, 4);
@@ -191,6 +201,7 @@ public final class EdgeQueryTest {
     }
 
     // Promise 33: "Returns the door; NONE if there is none, in particular if both rooms are the same."
+    // Promise 33: "Returns the door, open or closed, that connects two rooms."
     private static void doorBetween() {
         GhostRooms x = Houses.house(Houses.rooms(8, 5) + Houses.doors(24, 1));
         int door = 0;
@@ -252,7 +263,9 @@ public final class EdgeQueryTest {
         Check.due("one room", Houses.house(Houses.rooms(1, 5)).quietestPath(0, 0), 0);
     }
 
-    // Promise 38: "always 0"
+    // Promise 38: "Checks invariants. Returns the number of violations: 1 if the house has rooms and the room of the
+    //     ghost is not possible, plus the number of pairs of rooms for which quietestPath() depends on the order of its
+    //     arguments; always 0."
     private static void violations() {
         GhostRooms x = new GhostRooms();
         Check.due("no room", x.violations(), 0);
@@ -268,7 +281,8 @@ public final class EdgeQueryTest {
         Check.due("twelve rooms apart", Houses.house(Houses.rooms(12, 5) + "ghost l;").violations(), 0);
     }
 
-    // Promise 39: "0.0 if there is no room"
+    // Promise 39: "Returns the mean coldness of all rooms. Returns the sum of the coldness values as a double divided
+    //     by the number of rooms as a double; 0.0 if there is no room."
     private static void meanColdness() {
         GhostRooms x = new GhostRooms();
         Check.due("no room", x.meanColdness(), 0.0);
@@ -283,7 +297,8 @@ public final class EdgeQueryTest {
                 1187.0 / 12.0);
     }
 
-    // Promise 40: "0.0f if there is no room"
+    // Promise 40: "Returns the fraction of rooms that are possible. Returns the number of possible rooms as a float
+    //     divided by the number of rooms as a float; 0.0f if there is no room."
     private static void possibleFraction() {
         Check.due("no room", new GhostRooms().possibleFraction(), 0.0f);
         for (int count = 1; count <= 12; count++) {
@@ -344,6 +359,7 @@ public final class EdgeQueryTest {
     }
 
     // Promise 63: "Throws `IndexOutOfBoundsException` if the output has no such byte"
+    // Promise 63: "Returns a byte of the output. - `index`: index of a byte Returns the byte."
     private static void outputBytes() {
         GhostRooms x = Houses.house("house;room a 10;");
         Check.throwsThe(Check.INDEX, "before a report", () -> x.outputByte(0));

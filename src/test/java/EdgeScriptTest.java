@@ -72,6 +72,9 @@ public final class EdgeScriptTest {
     }
 
     // Term 6: "Tokens, error codes 1 and 4, and offsets are as for descriptions."
+    // Term 6: "```text script = { command ";" } command = "nights" N | "ask" name { name } | ( "open" | "close" ) name
+    //     name | ( "thermo" | "micro" ) name ( "on" | "off" ) | "warm" name N | "earn" N | ( "mode" | "chill" |
+    //     "hearing" | "price" | "random" ) N | "repeat" N "(" script ")" ```"
     private static void endsTooEarly() {
         StringBuilder text = new StringBuilder();
         int depth = 0;
@@ -268,6 +271,7 @@ public final class EdgeScriptTest {
 
     // Term 6: "The commands call passNights(), holdSeance() (with the set of the named rooms), setDoorOpen(),
     //     setThermometer(), setMicrophone(), warm(), earnCoins() and the setters of the settings."
+    // Promise 5: "Parses the input buffer as a script and executes it."
     private static void calledMethods() {
         same("nights 50;", y -> y.passNights(50));
         same("ask a;", y -> y.holdSeance(1));

@@ -58,6 +58,7 @@ public final class EdgeTextTest {
     }
 
     // Promise 2: "if the length would exceed 600"
+    // Promise 2: "Returns the new length of the input buffer."
     private static void sixHundredBytes() {
         for (int length = 0; length <= 600; length++) {
             GhostRooms y = filled(length);
@@ -74,7 +75,7 @@ public final class EdgeTextTest {
         return y;
     }
 
-    // Promise 2: "the four bytes of each argument, most significant byte first"
+    // Promise 2: "Appends 20 bytes to the input buffer: the four bytes of each argument, most significant byte first."
     private static void byteOrder() {
         for (int place = 0; place < 20; place++) {
             int[] words = {0x20202020, 0x20202020, 0x20202020, 0x20202020, 0x20202020};
@@ -92,6 +93,7 @@ public final class EdgeTextTest {
     }
 
     // Promise 3: "new length, 0 to the current length"
+    // Promise 3: "Returns the new length."
     private static void lengthsToTruncate() {
         for (int length : new int[] {0, 1, 20, 599, 600}) {
             for (int wrong : new int[] {Integer.MIN_VALUE, -1, length + 1, 601, Integer.MAX_VALUE}) {
@@ -249,6 +251,9 @@ public final class EdgeTextTest {
     }
 
     // Term 5: "or the length of the text if it ends too early"
+    // Term 5: "```text house = "house" ";" { statement ";" } statement = "room" name N [ "thermo" ] [ "micro" ] |
+    //     "door" name name N [ "closed" ] | "ghost" name | ( "mode" | "chill" | "hearing" | "price" | "random" |
+    //     "coins" | "nights" ) N ```"
     private static void endsTooEarly() {
         StringBuilder text = new StringBuilder();
         int rooms = 0;
@@ -267,7 +272,10 @@ public final class EdgeTextTest {
         }
     }
 
-    // Term 5: "the token is not allowed here, a byte belongs to no token, a word or number is too long"
+    // Term 5: "Tokens are words (maximal runs of the letters a to z, at most 8 letters), numbers (maximal runs of
+    //     digits, at most 4 digits) and the single characters ; ( and )."
+    // Term 5: "1: the token is not allowed here, a byte belongs to no token, a word or number is too long, or the text
+    //     ends too early."
     private static void wrongTokens() {
         for (String wrong : new String[] {"(", ")", "#", "\u00e1", "A", "\0", "\t", "abcdefghi", "12345", "_a", "-1"}) {
             StringBuilder text = new StringBuilder();
@@ -292,7 +300,8 @@ public final class EdgeTextTest {
         refuses("house ; room a 5 ; ghost a 1 ;", 1, 27);
     }
 
-    // Term 5: "Parsing stops at the first erroneous token."
+    // Term 5: "Parsing stops at the first erroneous token. The error offset is the index of the first byte of that
+    //     token, or the length of the text if it ends too early."
     private static void firstErroneousToken() {
         refuses("house;room a 5;ghost b;#", 4, 21);
         refuses("house;mode 3;mode;", 2, 11);
@@ -396,7 +405,7 @@ public final class EdgeTextTest {
         refuses("house;ghost a;room a 5;", 4, 12);
     }
 
-    // Term 5: "the word "room" of a 13th room"
+    // Term 5: "5: the word "room" of a 13th room"
     private static void thirteenthRoom() {
         String twelve = Houses.rooms(12, 5);
         reads(twelve, 12);
@@ -424,7 +433,7 @@ public final class EdgeTextTest {
         Check.due("24 doors behind 24", x.doorCount(), 24);
     }
 
-    // Term 5: "the second name of a door if a door already connects both rooms"
+    // Term 5: "6: the second name of a door if a door already connects both rooms"
     private static void secondDoorOfTwoRooms() {
         String three = "house;room a 5;room b 5;room c 5;door a b 1;door b c 1 closed;";
         refuses(three + "door a b 1;", 6, three.length() + 7);
@@ -528,7 +537,9 @@ public final class EdgeTextTest {
     }
 
     // Promise 6: "Returns the code; 0 if that text had no error or there was no such call."
+    // Promise 6: "Returns the error code of the latest call of readText() or runScript()."
     // Promise 7: "Returns the offset; NONE if that text had no error or there was no such call."
+    // Promise 7: "Returns the error offset of the latest call of readText() or runScript()."
     private static void errorsOfTheLatestText() {
         GhostRooms y = new GhostRooms();
         Check.due("no such call", y.errorCode() + " " + y.errorOffset(), "0 " + NONE);

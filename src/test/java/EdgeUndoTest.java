@@ -52,7 +52,23 @@ public final class EdgeUndoTest {
         return calls;
     }
 
+    // Rest: "changes, all undoable"
     // Term 7: "Each successful call of a method that is described as undoable can be undone, the latest first."
+    // Promise 5: "Undoable."
+    // Promise 47: "Undoable."
+    // Promise 48: "Undoable."
+    // Promise 49: "Undoable."
+    // Promise 50: "Undoable."
+    // Promise 51: "Undoable."
+    // Promise 52: "Undoable."
+    // Promise 53: "Undoable."
+    // Promise 54: "Undoable."
+    // Promise 55: "Undoable."
+    // Promise 56: "Undoable."
+    // Promise 57: "Undoable."
+    // Promise 58: "Undoable."
+    // Promise 59: "Undoable."
+    // Promise 60: "Undoable."
     private static void everyUndoableMethod() {
         undoable().forEach((what, call) -> {
             GhostRooms x = Houses.house(HOUSE);
@@ -69,6 +85,7 @@ public final class EdgeUndoTest {
     }
 
     // Term 7: "At most 6 such calls are remembered; a seventh one makes the oldest of them be forgotten."
+    // Promise 61: "Returns the number of calls that can still be undone."
     private static void sixCalls() {
         for (int calls = 0; calls <= 20; calls++) {
             GhostRooms x = new GhostRooms();

@@ -32,6 +32,7 @@ public final class NightTest {
         return x.ghostRoom();
     }
 
+    // Term 3: "Step 2: the ghost chooses its destination."
     private static void warmestRoom() {
         String rooms = "house;room a 5;room b 5;room c 4;room d 4;room e 3;room f 0;";
         String doors = "door a b 1;door a d 1;door a c 1;door a e 1 closed;door c f 1;";

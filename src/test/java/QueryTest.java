@@ -88,6 +88,7 @@ public final class QueryTest {
         wrongIndexes(x, "nameByte", room -> x.nameByte(room, 0));
     }
 
+    // Promise 26: "Returns the neighbors of a room. - `room`: index of a room Returns the set of its neighbors."
     private static void neighbors() {
         GhostRooms x = Houses.house("house;room a 1;room b 1;room c 1;room d 1;door c a 1;door a b 1 closed;door d a 1;");
         Check.due("of a", x.neighbors(0), 0b1100);
