@@ -206,7 +206,8 @@ public final class ChangeTest {
         setting(x, "setHearingThreshold", x::setHearingThreshold, v -> x.hearingThreshold(), 0, 9, 5);
         setting(x, "setSeancePrice", x::setSeancePrice, v -> x.seancePrice(), 1, 9, 2);
         setting(x, "setRandomState", x::setRandomState, v -> x.randomState(), 0, 15, 7);
-        Check.due("the others", Houses.state(x), "settings 2 9 9 9 15 coins 50 0 night 0 moves 0 ghost -1 possible 0\n");
+        Check.due("the others", Houses.state(x),
+                "settings 2 9 9 9 15 coins 50 0 night 0 moves 0 ghost -1 possible 0\n");
     }
 
     private static void setting(GhostRooms x, String what, IntUnaryOperator set, IntUnaryOperator get, int least,

@@ -46,7 +46,8 @@ public final class DescriptionTest {
     //     "ghost" places the ghost in a room."
     private static void wholeHouse() {
         reads("house;room hall 12 thermo micro;room attic 0 micro;room b 99 thermo;room c 7;"
-                + "door attic hall 9;door hall b 0 closed;ghost b;mode 2;chill 9;hearing 0;price 9;random 15;coins 999;", 4);
+                + "door attic hall 9;door hall b 0 closed;ghost b;mode 2;chill 9;hearing 0;price 9;random 15;"
+                + "coins 999;", 4);
         Check.due("the house", Houses.state(x), "settings 2 9 0 9 15 coins 999 0 night 0 moves 0 ghost 2 possible 15\n"
                 + "hall 12 t m why 0 -1 -1\nattic 0 m why 0 -1 -1\nb 99 t why 0 -1 -1\nc 7 why 0 -1 -1\n"
                 + "0-1 9 open\n0-2 0 closed\n");

@@ -337,8 +337,9 @@ public final class EdgeHouseTest {
         Check.due("a description without rooms", Houses.house("house;").ghostRoom(), NONE);
     }
 
-    // Term 2: "The movement mode is 0, 1 or 2 (initially 0). The chill is 1 to 9 (initially 1). The hearing threshold is
-    //     0 to 9 (initially 5). The seance price is 1 to 9 (initially 2). The random state is 0 to 15 (initially 7)."
+    // Term 2: "The movement mode is 0, 1 or 2 (initially 0). The chill is 1 to 9 (initially 1). The hearing threshold
+    //     is 0 to 9 (initially 5). The seance price is 1 to 9 (initially 2). The random state is 0 to 15 (initially
+    //     7)."
     // Promise 8: "Returns the movement mode."
     // Promise 9: "Returns the chill."
     // Promise 10: "Returns the hearing threshold."

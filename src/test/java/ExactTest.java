@@ -128,7 +128,8 @@ public final class ExactTest {
             for (int night = 0; night < 5; night++) {
                 ask(x, night, 1 << (number + night) % x.roomCount() | 1, facts);
                 live(x, evenings, facts);
-                Check.due("house " + number + " after night " + night, x.possibleRooms(), lastRooms(x, evenings, facts));
+                Check.due("house " + number + " after night " + night, x.possibleRooms(),
+                        lastRooms(x, evenings, facts));
                 changeTheHouse(x, number + night);
             }
             known += Integer.bitCount(x.possibleRooms()) == 1 ? 1 : 0;

@@ -146,7 +146,8 @@ public final class ModelTest {
             return text;
         }
         int at = below(text.length());
-        String[] odd = {"", " ", ";", "(", ")", "a", "7", "A", "\0", "\t", "\u00e4", "house", "12345", "abcdefghi", "door"};
+        String[] odd = {"", " ", ";", "(", ")", "a", "7", "A", "\0", "\t", "\u00e4", "house", "12345", "abcdefghi",
+            "door"};
         String damaged = text.substring(0, at) + odd[below(odd.length)] + text.substring(at + below(2));
         return chance(3) ? text.substring(0, at) : damaged;
     }

@@ -57,7 +57,8 @@ public final class NightTest {
     }
 
     private static void randomRoom() {
-        String rooms = "house;mode 2;room a 0;room b 0;room c 0;room d 0;room e 0;ghost c;door c e 0;door c a 0;door c d 0;";
+        String rooms = "house;mode 2;room a 0;room b 0;room c 0;room d 0;room e 0;ghost c;"
+                + "door c e 0;door c a 0;door c d 0;";
         int[] expected = {2, 0, 3, 4};
         for (int k = 0; k < 4; k++) {
             int before = 0;
@@ -120,7 +121,8 @@ public final class NightTest {
 
     private static void reasonsInOrder() {
         // a thermometer's contradiction goes before a door's, whatever their numbers
-        GhostRooms x = Houses.house("house;room a 9;room b 8 micro;room c 3 thermo;door a b 9;door b c 9 closed;nights 1;");
+        GhostRooms x = Houses.house("house;room a 9;room b 8 micro;room c 3 thermo;"
+                + "door a b 9;door b c 9 closed;nights 1;");
         Check.due("possible", x.possibleRooms(), 0b011);
         Check.due("by the thermometer", why(x, 2), "3 2 2");
         GhostRooms y = Houses.house("house;room a 5;room b 5;room c 0;door a b 1;nights 1;");

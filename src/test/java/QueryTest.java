@@ -29,7 +29,8 @@ public final class QueryTest {
     }
 
     private static void settingsAndCounters() {
-        GhostRooms x = Houses.house("house;room a 1;room b 1;door a b 2;mode 2;chill 4;hearing 6;price 5;random 9;coins 77;");
+        GhostRooms x = Houses.house("house;room a 1;room b 1;door a b 2;"
+                + "mode 2;chill 4;hearing 6;price 5;random 9;coins 77;");
         Check.due("mode", x.mode(), 2);
         Check.due("chill", x.chill(), 4);
         Check.due("hearingThreshold", x.hearingThreshold(), 6);
@@ -90,7 +91,8 @@ public final class QueryTest {
 
     // Promise 26: "Returns the neighbors of a room. - `room`: index of a room Returns the set of its neighbors."
     private static void neighbors() {
-        GhostRooms x = Houses.house("house;room a 1;room b 1;room c 1;room d 1;door c a 1;door a b 1 closed;door d a 1;");
+        GhostRooms x = Houses.house("house;room a 1;room b 1;room c 1;room d 1;"
+                + "door c a 1;door a b 1 closed;door d a 1;");
         Check.due("of a", x.neighbors(0), 0b1100);
         Check.due("of b", x.neighbors(1), 0);
         Check.due("of c", x.neighbors(2), 0b0001);
