@@ -15,6 +15,7 @@ public final class EdgePredictionTest {
         bestThermometer();
         smallestCalmestMode();
         calmestOfTenNights();
+        hardlyCalm();
         noOpenDoor();
         lowestImportantDoor();
         changesToAndFromNone();
@@ -196,6 +197,36 @@ public final class EdgePredictionTest {
         Check.yes("houses that tell ten nights from nine: " + nine, nine > 0);
         Check.yes("houses that tell ten nights from eleven: " + eleven, eleven > 0);
         Check.yes("houses in which the ghost had moved before: " + moved, moved > 0);
+    }
+
+    // Promise 45: "Finds the movement mode in which the ghost would change its room least often during the next 10
+    //     nights."
+    private static void hardlyCalm() {
+        // downhill from a to k, and l beside six of the rooms, so that mode 2 stays only once
+        StringBuilder text = new StringBuilder("house;");
+        for (int room = 0; room < 11; room++) {
+            text.append("room ").append(Houses.letter(room)).append(' ').append(20 - room).append(';');
+        }
+        text.append("room l 90;");
+        for (int room = 0; room < 10; room++) {
+            text.append("door ").append(Houses.letter(room)).append(' ').append(Houses.letter(room + 1)).append(" 1;");
+        }
+        for (char room : "bdefgi".toCharArray()) {
+            text.append("door l ").append(room).append(" 1;");
+        }
+        text.append("random 0;");
+        Check.due("moves in ten nights", moves(text, 0) + " " + moves(text, 1) + " " + moves(text, 2), "10 10 9");
+        Check.due("nine moves", Houses.house(text.toString()).calmestMode(), 2);
+        String ring = Houses.rooms(3, 99) + "door a b 0;door b c 0;door c a 0;ghost c;";
+        Check.due("moves in ten nights", moves(ring, 0) + " " + moves(ring, 1), "0 10");
+        Check.due("no move at all", Houses.house(ring).calmestMode(), 0);
+    }
+
+    private static int moves(CharSequence text, int mode) {
+        GhostRooms x = Houses.house(text.toString());
+        x.setMode(mode);
+        x.passNights(10);
+        return x.ghostMoves();
     }
 
     private static int calmest(String text, int nights) {
