@@ -1,3 +1,5 @@
+import java.lang.reflect.Field;
+
 /** The edges of promises 20 to 34, 38 to 40, 62 and 63: rooms, doors, paths, means and the report. */
 public final class EdgeQueryTest {
     private static final int NONE = GhostRooms.NONE;
@@ -21,6 +23,7 @@ public final class EdgeQueryTest {
         longestPath();
         noPath();
         violations();
+        brokenHouse();
         meanColdness();
         possibleFraction();
         emptyReport();
@@ -279,6 +282,29 @@ public final class EdgeQueryTest {
             Check.due("a full house in night " + night, x.violations(), 0);
         }
         Check.due("twelve rooms apart", Houses.house(Houses.rooms(12, 5) + "ghost l;").violations(), 0);
+    }
+
+    // Promise 38: "1 if the house has rooms and the room of the ghost is not possible"
+    private static void brokenHouse() {
+        // no run of calls leads there, so the test itself takes the ghost's room out of the possible ones
+        for (int count : new int[] {0, 1, 2, 12}) {
+            GhostRooms x = Houses.house(Houses.rooms(count, 5));
+            Check.due("a sound house of " + count, x.violations(), 0);
+            setPossible(x, (1 << count) - 2);
+            Check.due("a broken house of " + count, x.violations(), count == 0 ? 0 : 1);
+        }
+    }
+
+    private static void setPossible(GhostRooms x, int rooms) {
+        try {
+            Field house = GhostRooms.class.getDeclaredField("house");
+            house.setAccessible(true);
+            Field possible = house.getType().getDeclaredField("possible");
+            possible.setAccessible(true);
+            possible.setInt(house.get(x), rooms);
+        } catch (ReflectiveOperationException e) {
+            throw new IllegalStateException("the class holds its house otherwise than brokenHouse() takes it to", e);
+        }
     }
 
     // Promise 39: "Returns the mean coldness of all rooms. Returns the sum of the coldness values as a double divided
